@@ -1,0 +1,45 @@
+/** Counts the answers that are not as due, tells each, and ends the program with exit code 1 if there was one. */
+final class Checks {
+  interface Call {
+    Object answer();
+  }
+
+  static final String INDEX = "throws.IndexOutOfBoundsException";
+  static final String ARGUMENT = "throws.IllegalArgumentException";
+  static final String STATE = "throws.IllegalStateException";
+
+  private int done = 0;
+  private int wrong = 0;
+
+  /** The answer as a text; an exception's class (just that one, none below it) behind "throws.". */
+  static String told(Call call) {
+    try {
+      return String.valueOf(call.answer());
+    } catch (RuntimeException e) {
+      return "throws." + e.getClass().getSimpleName();
+    }
+  }
+
+  void due(String what, Object want, Call call) {
+    done++;
+    String got = told(call);
+    if (!got.equals(String.valueOf(want))) {
+      wrong++;
+      System.out.println(what + " answered " + got + ", due is " + want);
+    }
+  }
+
+  /** The call is due to throw that, and to change nothing of the object. */
+  void thrown(String what, String want, Divisorwork x, Call call) {
+    long before = x.digest();
+    due(what, want, call);
+    due(what + " changes nothing", before, x::digest);
+  }
+
+  void end() {
+    System.out.println(done + " answers asked, " + wrong + " not as due");
+    if (wrong != 0) {
+      System.exit(1);
+    }
+  }
+}
