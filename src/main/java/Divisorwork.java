@@ -10,6 +10,7 @@ public final class Divisorwork {
   private static final int GREATEST = 999;
   // 32 * 32 is above 999.
   private static final int MOST_ROOT = 31;
+  private static final long LEAST = 1L << 63;
 
   private final Row[] functions = new Row[FUNCTIONS];
   // Each call reckons in these rows, so that no call needs a new one, and a source may be the target.
@@ -479,7 +480,7 @@ public final class Divisorwork {
         return true;
       }
       // The one product that wraps onto a quotient that seems right is -2^63 by -1.
-      return a * b / b == a && !(a == Long.MIN_VALUE && b == -1);
+      return a * b / b == a && !(a == LEAST && b == -1);
     }
   }
 
@@ -678,7 +679,7 @@ public final class Divisorwork {
 
   /** The table with the value at the COMMON of i and j at i, j. */
   private static final class Table {
-    static final int MOST_ROWS = 6;
+    private static final int MOST_ROWS = 6;
 
     /** The determinant of the rows from row on without the columns in taken, with the signs of both. */
     private static long sumOfSequences(Row f, int size, int row, int taken) {

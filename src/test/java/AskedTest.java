@@ -176,6 +176,8 @@ public final class AskedTest {
     putLong(x, 1, 3, Long.MAX_VALUE);
     x.put(1, 60, 1);
     CHECKS.thrown("total(1, 60) above", Checks.STATE, x, () -> x.total(1, 60));
+    due("an act beyond", -9, () -> x.meet(1, 1, 0, 1));
+    due("total(0, 9) after what went beyond", -2, () -> x.total(0, 9));
     x.put(1, 1, -1);
     due("total(1, 60)", Long.MAX_VALUE, () -> x.total(1, 60));
   }
@@ -231,6 +233,9 @@ public final class AskedTest {
           CHECKS.thrown(number + " at 50, up to 120", Checks.STATE, x, () -> x.totalOfProduct(0, 1, 120, way));
           CHECKS.thrown(number + " at 50, up to 121", Checks.ARGUMENT, x, () -> x.totalOfProduct(0, 1, 121, way));
           due(number + " at 50, up to 49", -201000000000000L, () -> x.totalOfProduct(0, 1, 49, way));
+          putLong(x, function, 1, number);
+          CHECKS.thrown(number + " at 1", Checks.STATE, x, () -> x.totalOfProduct(0, 1, 1, way));
+          x.put(function, 1, function == 0 ? 1000000 : -1000000);
           x.put(function, 50, function == 0 ? 1000000 : -1000000);
         }
       }
@@ -280,6 +285,8 @@ public final class AskedTest {
         CHECKS.thrown(number + " at 4, size 4", Checks.STATE, x, () -> x.determinant(0, 4, way));
         CHECKS.thrown(number + " at 4, size 6", Checks.STATE, x, () -> x.determinant(0, 6, way));
         CHECKS.thrown(number + " at 4, size 7", Checks.ARGUMENT, x, () -> x.determinant(0, 7, way));
+        putLong(x, 2, 1, number);
+        CHECKS.thrown(number + " at 1, size 1", Checks.STATE, x, () -> x.determinant(2, 1, way));
         due(number + " at 4, size 3", 0, () -> x.determinant(0, 3, way));
       }
       for (int n = 1; n <= 6; n++) {
