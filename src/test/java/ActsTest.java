@@ -32,31 +32,11 @@ public final class ActsTest {
   }
 
   private static void values(String what, Divisorwork x, int function, long... wants) {
-    for (int i = 0; i < wants.length; i++) {
-      int n = i + 1;
-      due(what + ", value(" + function + ", " + n + ")", wants[i], () -> x.value(function, n));
-    }
+    CHECKS.values(what, x, function, wants);
   }
 
-  /** That one is REFUSED: house() of 1 counts it, house() of 0 does not, and no value changes. */
   private static void refused(String what, Divisorwork x, Checks.Call call) {
-    String before = allValues(x);
-    int acts = x.house(0);
-    int refusals = x.house(1);
-    due(what, -9, call);
-    due(what + " is no act done", acts, () -> x.house(0));
-    due(what + " counts as REFUSED", refusals + 1, () -> x.house(1));
-    due(what + " changes nothing", before, () -> allValues(x));
-  }
-
-  private static String allValues(Divisorwork x) {
-    StringBuilder all = new StringBuilder();
-    for (int f = 0; f < 4; f++) {
-      for (int n = 1; n <= 120; n++) {
-        all.append(x.value(f, n)).append(' ');
-      }
-    }
-    return all.toString();
+    CHECKS.refused(what, x, call);
   }
 
   private static void newObject() {

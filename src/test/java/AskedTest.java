@@ -25,7 +25,7 @@ public final class AskedTest {
   }
 
   private static void putLong(Divisorwork x, int function, int n, long number) {
-    x.putWide(function, n, (int) (number >> 32), (int) number);
+    Checks.putLong(x, function, n, number);
   }
 
   private static void value() {
@@ -182,29 +182,32 @@ public final class AskedTest {
     due("total(1, 60)", Long.MAX_VALUE, () -> x.total(1, 60));
   }
 
+  /** The TOTAL of the PRODUCT, beside that one made and summed up. */
+  private static void totalOfProductEverywhere(Divisorwork x, String what) {
+    x.multiply(0, 1, 2);
+    for (int n = 1; n <= 120; n++) {
+      int last = n;
+      String want = x.total(2, n);
+      for (int how = 0; how <= 2; how++) {
+        int way = how;
+        due("totalOfProduct of " + what + ", up to " + n + ", how " + how, want,
+            () -> x.totalOfProduct(0, 1, last, way));
+      }
+    }
+  }
+
   private static void totalOfProduct() {
     Divisorwork x = new Divisorwork();
     x.know(0, 1);
     x.know(1, 2);
-    x.sow(2, 4711, 500);
-    x.sow(3, 1848, 500);
-    for (int one = 0; one < 4; one += 2) {
-      int first = one;
-      Divisorwork y = new Divisorwork();
-      for (int n = 1; n <= 120; n++) {
-        putLong(y, 0, n, Long.parseLong(x.value(first, n)));
-        putLong(y, 1, n, Long.parseLong(x.value(first + 1, n)));
-      }
-      y.multiply(0, 1, 2);
-      for (int n = 1; n <= 120; n++) {
-        int last = n;
-        for (int how = 0; how <= 2; how++) {
-          int way = how;
-          due("totalOfProduct(" + first + ", " + (first + 1) + ", " + n + ", " + how + ")",
-              y.total(2, n), () -> x.totalOfProduct(first, first + 1, last, way));
-        }
-      }
-    }
+    Divisorwork known = new Divisorwork();
+    known.know(0, 1);
+    known.know(1, 2);
+    totalOfProductEverywhere(known, "1 and n");
+    Divisorwork sown = new Divisorwork();
+    sown.sow(0, 4711, 500);
+    sown.sow(1, 1848, 500);
+    totalOfProductEverywhere(sown, "two sown ones");
     due("SIGMA up to 5", 21, () -> x.totalOfProduct(0, 1, 5, 2));
     CHECKS.thrown("totalOfProduct(-1, 0, 0, 0)", Checks.INDEX, x, () -> x.totalOfProduct(-1, 0, 0, 0));
     CHECKS.thrown("totalOfProduct(0, 4, 1, 3)", Checks.INDEX, x, () -> x.totalOfProduct(0, 4, 1, 3));
@@ -266,11 +269,12 @@ public final class AskedTest {
       due("determinant(1, 3, " + how + ")", -63, () -> x.determinant(1, 3, way));
     }
     for (int seed = 0; seed < 40; seed++) {
-      x.sow(0, seed * 999, 100);
+      Divisorwork sown = new Divisorwork();
+      sown.sow(0, seed * 999, 100);
       for (int size = 1; size <= 6; size++) {
         int rows = size;
-        due("both ways, seed " + seed * 999 + ", size " + size, x.determinant(0, size, 1),
-            () -> x.determinant(0, rows, 0));
+        due("both ways, seed " + seed * 999 + ", size " + size, sown.determinant(0, size, 1),
+            () -> sown.determinant(0, rows, 0));
       }
     }
   }

@@ -36,6 +36,30 @@ final class Checks {
     due(what + " changes nothing", before, x::digest);
   }
 
+  /**
+   * That one is REFUSED: -9 is told, and nothing but house() of 1 changes, which goes up by 1; in the digest
+   * two more numbers come behind that one, so it goes up by 31 * 31.
+   */
+  void refused(String what, Divisorwork x, Call call) {
+    long before = x.digest();
+    int refusals = x.house(1);
+    due(what, -9, call);
+    due(what + " counts as REFUSED", refusals + 1, () -> x.house(1));
+    due(what + " changes nothing else", before + 31 * 31, x::digest);
+  }
+
+  /** The values of the function at 1 and on, as many as are given. */
+  void values(String what, Divisorwork x, int function, long... wants) {
+    for (int i = 0; i < wants.length; i++) {
+      int n = i + 1;
+      due(what + ", value(" + function + ", " + n + ")", wants[i], () -> x.value(function, n));
+    }
+  }
+
+  static void putLong(Divisorwork x, int function, int n, long number) {
+    x.putWide(function, n, (int) (number >> 32), (int) number);
+  }
+
   void end() {
     System.out.println(done + " answers asked, " + wrong + " not as due");
     if (wrong != 0) {

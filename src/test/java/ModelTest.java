@@ -2,7 +2,8 @@
 public final class ModelTest {
   private static final Checks CHECKS = new Checks();
   private static final int RUNS = 300;
-  private static final int CALLS = 480;
+  /** Some are two calls; no more than 512 calls of an object are promised. */
+  private static final int CALLS = 450;
   private static final int[] EDGES = {0, 1, -1, 2, -2, 3, 5, -7, 100, -100, 101, 1000000, -1000000, 1000001,
     Integer.MIN_VALUE, Integer.MAX_VALUE, 1 << 30, 65536, 46341};
 

@@ -7,6 +7,10 @@ public final class WholeTest {
     house();
     sound();
     digest();
+    digestWraps();
+    digestCountsHouse();
+    knocks();
+    lastCalls();
     CHECKS.end();
   }
 
@@ -64,7 +68,7 @@ public final class WholeTest {
 
   private static void digest() {
     Divisorwork x = new Divisorwork();
-    due("digest of a new object", reckoned(x), x::digest);
+    due("digest of a new object", reckoned(new Divisorwork()), x::digest);
     // 8027 by 31^484, and 1 for isSound.
     long d = 8027;
     for (int i = 0; i < 484; i++) {
@@ -79,14 +83,76 @@ public final class WholeTest {
     x.knock();
     x.knock();
     x.knock();
-    due("digest", reckoned(x), x::digest);
-    due("digest again", reckoned(x), x::digest);
     long before = x.digest();
+    due("digest again", before, x::digest);
     x.isSound();
     x.house(0);
     x.tau(720, 2);
     x.powers(720);
     due("digest after asking", before, x::digest);
+    due("digest by reckoning", reckoned(x), () -> before);
+  }
+
+  /** The checksum of an object with this alone at that place, and one act done. */
+  private static void digestOf(long number, int function, int n, long want) {
+    Divisorwork x = new Divisorwork();
+    Checks.putLong(x, function, n, number);
+    due("digest with " + number + " at " + n + " of function " + function, want, x::digest);
+    due("the same by reckoning", reckoned(x), x::digest);
+  }
+
+  /** The wants were reckoned apart from this project, without a bound, and brought into 64 digits at the end. */
+  private static void digestWraps() {
+    due("digest of a new object", -1223593454177720868L, () -> new Divisorwork().digest());
+    digestOf(Long.MIN_VALUE, 0, 1, 7999778582677084731L);
+    digestOf(Long.MAX_VALUE, 0, 1, -6756455302375085604L);
+    digestOf(-1, 0, 1, 2466916734479690204L);
+    digestOf(1, 0, 1, -4914103642835072358L);
+    digestOf(Long.MIN_VALUE, 3, 120, 7999778582677084731L);
+    digestOf(Long.MAX_VALUE, 3, 120, 7999778582676161210L);
+    digestOf(-1, 3, 120, -1223593454178614598L);
+    digestOf(1, 3, 120, -1223593454176767556L);
+  }
+
+  /** A REFUSED act and a knock each change the checksum, by other numbers than an act does. */
+  private static void digestCountsHouse() {
+    Divisorwork x = new Divisorwork();
+    x.knock();
+    due("digest behind a knock", -1223593454177720837L, x::digest);
+    Divisorwork y = new Divisorwork();
+    y.make(0, 0, 0);
+    due("digest behind a REFUSED act", -1223593454177719907L, y::digest);
+    Divisorwork z = new Divisorwork();
+    z.copy(0, 0);
+    due("digest behind an act", -1223593454177720868L + 31 * 31 * 31, z::digest);
+    due("digest behind a digest", -1223593454177720868L + 31 * 31 * 31, z::digest);
+  }
+
+  private static void knocks() {
+    Divisorwork x = new Divisorwork();
+    due("no knock", 0, () -> x.house(2));
+    for (int i = 1; i <= 200; i++) {
+      due("knock " + i, i, x::knock);
+      due("house(2) behind knock " + i, i, () -> x.house(2));
+    }
+    due("house(0) behind the knocks", 0, () -> x.house(0));
+    due("house(1) behind the knocks", 0, () -> x.house(1));
+  }
+
+  /** The call 512 is the last one that is promised: here it tells of 511 acts, REFUSED ones or knocks. */
+  private static void lastCalls() {
+    Divisorwork acts = new Divisorwork();
+    Divisorwork refusals = new Divisorwork();
+    Divisorwork knocks = new Divisorwork();
+    for (int i = 1; i <= 511; i++) {
+      int value = i % 2;
+      due("put " + i, 1, () -> acts.put(3, 120, 2 - value));
+      due("REFUSED " + i, -9, () -> refusals.make(0, 0, 3));
+      due("knock " + i, i, knocks::knock);
+    }
+    due("511 acts", 511, () -> acts.house(0));
+    due("511 REFUSED ones", 511, () -> refusals.house(1));
+    due("511 knocks", 511, () -> knocks.house(2));
   }
 
   private static long reckoned(Divisorwork x) {
