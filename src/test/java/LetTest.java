@@ -34,6 +34,7 @@ public final class LetTest {
     byPlace();
     isByPrimes();
     doubledToTheEnd();
+    nothingStaysBehind();
     CHECKS.end();
   }
 
@@ -541,5 +542,27 @@ public final class LetTest {
     CHECKS.refused("PRODUCT with itself", x, () -> x.multiply(0, 0, 0));
     due("less itself", 120, () -> x.meet(0, 0, 1, 0));
     due("isSound behind all of these", true, x::isSound);
+  }
+
+  /** What goes BEYOND in one call has no part in the next one: each is asked just behind a REFUSED act. */
+  private static void nothingStaysBehind() {
+    Divisorwork x = new Divisorwork();
+    x.know(0, 2);
+    Checks.putLong(x, 3, 120, LEAST);
+    Object[] wants = {120, 120, 119, 120, 119, 119, 119, 118, 120, 119, true, true, true, 7260, 7260};
+    Checks.Call[] calls = {
+      () -> x.meet(0, 0, 0, 1), () -> x.meet(0, 2, 1, 1), () -> x.meet(0, 0, 2, 1), () -> x.make(0, 4, 1),
+      () -> x.multiply(0, 0, 1), () -> x.make(0, 0, 1), () -> x.make(0, 1, 1), () -> x.make(0, 2, 1),
+      () -> x.make(0, 4, 1), () -> x.make(0, 5, 1), () -> x.is(0, 0), () -> x.is(0, 3), x::isSound,
+      () -> x.total(0, 120), () -> x.totalOfProduct(0, 2, 120, 0),
+    };
+    for (int i = 0; i < calls.length; i++) {
+      x.know(1, 1);
+      x.know(2, 0);
+      due("-2^63 by 120, ahead of call " + i, -9, () -> x.make(3, 5, 3));
+      due("call " + i + " behind what went BEYOND", wants[i], calls[i]);
+    }
+    due("-2^63 by 120, ahead of BY PRIMES", -9, () -> x.make(3, 5, 3));
+    due("BY PRIMES behind what went BEYOND", 0, () -> x.make(0, 3, 0));
   }
 }

@@ -129,6 +129,17 @@ public final class RangesTest {
         (x, seed) -> x.sow(1, seed, 500));
     act("sow: wide", ARGUMENT, 0, "120: 11 12, 0 0, 31 32, 41 42", 500, "0: 11 12, 421 173, 31 32, 41 42",
         (x, wide) -> x.sow(1, 7, wide));
+    // The first x is 22, 64009, 65535 and 0: x / 64 is 0, 1000, 1023, which is 22 modulo 1001, and 0.
+    sownFirst(265, -500);
+    sownFirst(1072, 500);
+    sownFirst(33870, -478);
+    sownFirst(3915, -500);
+  }
+
+  private static void sownFirst(int seed, int want) {
+    Divisorwork x = new Divisorwork();
+    x.sow(3, seed, 500);
+    CHECKS.due("sow(3, " + seed + ", 500): the value at 1", want, () -> x.value(3, 1));
   }
 
   private static void copy() {
