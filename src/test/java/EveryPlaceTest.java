@@ -160,13 +160,16 @@ public final class EveryPlaceTest {
   private static void sizes(int place) {
     for (int i = 0; i <= 2; i++) {
       int how = i;
-      Divisorwork x = with(place, 1000001);
-      CHECKS.thrown("too great as the one at " + place, Checks.STATE, x, () -> x.totalOfProduct(0, 1, place, how));
-      CHECKS.thrown("too great as the other one at " + place, Checks.STATE, x,
+      Divisorwork x = with(place, -1000001);
+      CHECKS.thrown("too far below 0 at " + place, Checks.STATE, x, () -> x.totalOfProduct(0, 1, place, how));
+      CHECKS.thrown("the other one, below 0 at " + place, Checks.STATE, x, () -> x.totalOfProduct(1, 0, place, how));
+      x.put(0, place, 1000001);
+      CHECKS.thrown("too great at " + place, Checks.STATE, x, () -> x.totalOfProduct(0, 1, place, how));
+      CHECKS.thrown("the other one, too great at " + place, Checks.STATE, x,
           () -> x.totalOfProduct(1, 0, place, how));
       if (place > 1) {
         due("too great behind " + (place - 1), "0", () -> x.totalOfProduct(0, 1, place - 1, how));
-        due("too great behind " + (place - 1), "0", () -> x.totalOfProduct(1, 0, place - 1, how));
+        due("the other one, too great behind " + (place - 1), "0", () -> x.totalOfProduct(1, 0, place - 1, how));
       }
     }
   }

@@ -167,19 +167,29 @@ public final class SeveralWaysTest {
     }
   }
 
+  /** All pairs of 1 to 999. */
   private static void commonAndLeast() {
     for (int a = 1; a <= 999; a++) {
       Divisorwork x = new Divisorwork();
-      for (int b = a % 7 + 1; b <= 999; b += 7) {
-        int one = a;
-        int other = b;
-        int common = x.shared(one, other, false);
-        String of = one + " and " + other;
-        told("COMMON of " + of + " is a DIVISOR of both", "0 0", one % common + " " + other % common);
-        told("LEAST by COMMON of " + of, one * other, x.shared(one, other, true) * common);
-        due("COMMON of " + other + " and " + one, common, () -> x.shared(other, one, false));
+      for (int b = 1; b <= 999; b++) {
+        // Three calls for each, and 512 are promised.
+        x = b % 150 == 0 ? new Divisorwork() : x;
+        commonAndLeastOf(x, a, b);
       }
     }
+  }
+
+  private static void commonAndLeastOf(Divisorwork x, int a, int b) {
+    int common = x.shared(a, b, false);
+    String of = a + " and " + b;
+    told("COMMON of " + of + " is a DIVISOR of both", "0 0", a % common + " " + b % common);
+    told("COMMON of " + of + " is the greatest one: no common part is left", 1, common(a / common, b / common));
+    told("LEAST by COMMON of " + of, a * b, x.shared(a, b, true) * common);
+    told("COMMON of " + of + ", turned about", common, x.shared(b, a, false));
+  }
+
+  private static int common(int a, int b) {
+    return b == 0 ? a : common(b, a % b);
   }
 
   private static void summedAndSignedKnown() {
